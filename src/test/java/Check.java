@@ -6,15 +6,23 @@ final class Check {
 
     private static int wrong = 0;
     private static int asked = 0;
+    private static int sentences = 0;
+    private static String sentence = "";
 
     private Check() {}
+
+    /** The document's sentence that the answers from here on are asked for. */
+    static void sentence(String text) {
+        sentences++;
+        sentence = text + " | ";
+    }
 
     static void due(String call, Object got, Object want) {
         asked++;
         // Compared as texts, so that an int and a long of the same value are the same answer.
         if (!String.valueOf(got).equals(String.valueOf(want))) {
             wrong++;
-            System.out.println(call + " answered " + got + ", due is " + want);
+            System.out.println(sentence + call + " answered " + got + ", due is " + want);
         }
     }
 
@@ -54,8 +62,29 @@ final class Check {
         }
     }
 
+    /** All that can be asked of an object, so that what a call has changed can be seen. */
+    static String all(GrowDecoder x) {
+        StringBuilder all = new StringBuilder();
+        for (int what = 0; what < 5; what++) {
+            all.append(" total ").append(x.total(what));
+        }
+        for (int p = 0; p < x.total(0); p++) {
+            all.append(" cluster ").append(x.cluster(p));
+        }
+        for (int e = 0; e < x.total(1); e++) {
+            all.append(" size ").append(x.size(e)).append(" syndrome ").append(x.syndrome(1L << e));
+            for (int side = 0; side < 3; side++) {
+                all.append(" sent ").append(sent(x, e, side));
+            }
+        }
+        all.append(" grown ").append(x.grown(0)).append(' ').append(x.grown(1));
+        all.append(" guess ").append(x.guess()).append(" answer ").append(x.answer());
+        return all.append(" chosen ").append(x.chosen()).toString();
+    }
+
     static void done() {
-        System.out.println(asked + " answers, " + wrong + " not as due");
+        String of = sentences == 0 ? "" : " for " + sentences + " sentences";
+        System.out.println(asked + " answers" + of + ", " + wrong + " not as due");
         if (wrong != 0 || asked == 0) {
             System.exit(1);
         }
