@@ -65,7 +65,7 @@ public final class ModelTest {
             due("point", x.point(boundary), m.point(boundary));
         } else if (kind < 30) {
             int q = anyPoint();
-            int length = random.nextInt(30) == 0 ? random.nextInt(25) - 2 : 1 + random.nextInt(mostLength);
+            int length = random.nextInt(30) == 0 ? wild(26) : 1 + random.nextInt(mostLength);
             due("edge", x.edge(p, q, length), m.edge(p, q, length));
         } else {
             boolean on = random.nextInt(3) > 0;
@@ -74,11 +74,16 @@ public final class ModelTest {
     }
 
     private int anyPoint() {
-        return random.nextInt(40) == 0 ? random.nextInt(36) - 3 : random.nextInt(m.boundary.size() + 1);
+        return random.nextInt(40) == 0 ? wild(36) : random.nextInt(m.boundary.size() + 1);
     }
 
     private int anyEdge() {
-        return random.nextInt(20) == 0 ? random.nextInt(70) - 5 : random.nextInt(m.edges.size() + 1);
+        return random.nextInt(20) == 0 ? wild(70) : random.nextInt(m.edges.size() + 1);
+    }
+
+    /** Mostly a number about 0 .. most, at times any int: a bit or an index of it would go astray. */
+    private int wild(int most) {
+        return random.nextInt(4) == 0 ? random.nextInt() : random.nextInt(most) - 3;
     }
 
     private void grow() {
@@ -94,16 +99,18 @@ public final class ModelTest {
         for (int what = -1; what < 3; what++) {
             due("grown(" + what + ")", x.grown(what), m.grown(what));
         }
+        int what = wild(8);
+        due("grown(" + what + ")", x.grown(what), m.grown(what));
     }
 
     private void believe() {
         if (random.nextInt(3) > 0) {
-            int turns = random.nextInt(42);
+            int turns = random.nextInt(40) == 0 ? wild(48) : random.nextInt(42);
             due("believe(" + turns + ")", x.believe(turns), m.believe(turns));
         }
         for (int i = 0; i < 6; i++) {
             int e = anyEdge();
-            int side = random.nextInt(20) == 0 ? random.nextInt(7) - 2 : random.nextInt(3);
+            int side = random.nextInt(20) == 0 ? wild(8) : random.nextInt(3);
             due("sent(" + e + ", " + side + ")", Check.sent(x, e, side), m.sent(e, side));
         }
         due("guess()", x.guess(), m.guess());
@@ -116,5 +123,7 @@ public final class ModelTest {
         for (int what = -1; what < 6; what++) {
             due("total(" + what + ")", x.total(what), m.total(what));
         }
+        int what = wild(10);
+        due("total(" + what + ")", x.total(what), m.total(what));
     }
 }
